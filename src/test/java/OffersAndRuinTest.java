@@ -49,6 +49,8 @@ public final class OffersAndRuinTest {
     private static void offers() {
         AdmiralGuinea x = new AdmiralGuinea();
         bestIs(x, 0, 999999, 9, new long[] {0, 1, 0});
+        bestIs(x, 999999, 0, 9, new long[] {0, 1, 0});
+        bestIs(x, 0, 0, 1, new long[] {0, 1, 0});
         bestIs(x, 900000, 500000, 1, new long[] {36, 1, 1});
         // 10 for 2 months: 19 of 100 by the book, at 2; by 3 tenths 51 of 100
         bestIs(x, 100000, 300000, 2, new long[] {31, 10, 1});
@@ -135,6 +137,8 @@ public final class OffersAndRuinTest {
         check.due("ruin(0, 1, 2)", x.ruin(0, 1, 2), LOST - 2);
         ruinIs(x, 3, 0, 1, 0, 1);
         check.does(x, "aA11bA21cB31", 3);
+        x.funds(0);
+        ruinIs(x, 0, 0, 1, 0, 1);
         x.funds(30);
         ruinIs(x, 1, 1, 100, 6, 1);
         x.funds(29);

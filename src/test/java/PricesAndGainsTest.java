@@ -79,10 +79,14 @@ public final class PricesAndGainsTest {
     private static void worth() {
         AdmiralGuinea x = new AdmiralGuinea();
         check.due("nothing", x.worth(0), -6);
-        check.does(x, "aF31aC21aC11bE11bD22", 5);
+        check.does(x, "cA12cB12", 2);
+        check.due("life 0", x.worth(2), 0);
+        check.does(x, "Ax", 1);
+        check.due("paid", x.worth(2), 1);
+        check.does(x, "BxaF31aC21aC11bE11bD22", 6);
         check.due("of several the least", x.worth(0), 2);
         check.due("the most", x.worth(1), 3);
-        check.due("nothing", x.worth(2), -6);
+        check.due("nothing any more", x.worth(2), -6);
         check.does(x, "aF11", 1);
         check.due("more now", x.worth(0), 5);
         check.does(x, ".", 1);
