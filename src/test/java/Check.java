@@ -1,14 +1,24 @@
 /** Counts answers that are not as due; a test ends with end(). */
 final class Check {
+    private final String name;
     private int wrong = 0;
     private int calls = 0;
+
+    Check() {
+        this("");
+    }
+
+    /** The name is told ahead of each answer that is not as due. */
+    Check(String name) {
+        this.name = name;
+    }
 
     void due(String call, long got, long want) {
         calls++;
         if (got != want) {
             wrong++;
             if (wrong <= 50) {
-                System.out.println(call + " answered " + got + ", due is " + want);
+                System.out.println((name.isEmpty() ? "" : name + ": ") + call + " answered " + got + ", due is " + want);
             }
         }
     }
@@ -31,6 +41,22 @@ final class Check {
         due("done of " + text, x.done(), acts);
     }
 
+    /** So many months come; a pad has room for 60 of them. */
+    void months(AdmiralGuinea x, int n) {
+        for (int left = n; left > 0; left -= 60) {
+            int some = Math.min(60, left);
+            does(x, ".".repeat(some), some);
+        }
+    }
+
+    /** The text can be, all of it; nothing is done. */
+    void canBe(AdmiralGuinea x, String text) {
+        pad(x, text);
+        due("judge(0) of " + text, x.judge(0), AdmiralGuinea.NONE);
+        due("judge(1) of " + text, x.judge(1), AdmiralGuinea.NONE);
+        x.wipe();
+    }
+
     /** The text can not be: the act and why; nothing changes by done. */
     void badAct(AdmiralGuinea x, String text, int act, int why) {
         pad(x, text);
@@ -47,6 +73,14 @@ final class Check {
     void fraction(String call, long gotUpper, long gotLower, long upper, long lower) {
         due(call + " upper", gotUpper, upper);
         due(call + " lower", gotLower, lower);
+    }
+
+    int answers() {
+        return calls;
+    }
+
+    int wrongOnes() {
+        return wrong;
     }
 
     void end() {

@@ -2,7 +2,8 @@ import java.util.Random;
 
 /** Runs of random calls, right and wrong ones, against the model; all promises. */
 public final class RandomRunsTest {
-    private static final int RUNS = 1500, CALLS = 500;
+    /** A step takes 120 calls at most, so that a run stays below the 512 that are promised. */
+    private static final int RUNS = 2000, CALLS = 380;
     private static final Check check = new Check();
     private static Random random;
     private static AdmiralGuinea x;
@@ -14,9 +15,19 @@ public final class RandomRunsTest {
             random = new Random(run);
             x = new AdmiralGuinea();
             m = new Model();
-            for (int calls = 0; calls < CALLS;) calls += step();
+            int calls = run % 4 == 0 ? late() : 0;
+            while (calls < CALLS) calls += step();
         }
         check.end();
+    }
+
+    /** Some runs begin near the last month. */
+    private static int late() {
+        int calls = sayAll(".".repeat(60)) + 1;
+        same("done", x.done(), m.done());
+        calls += sayAll(".".repeat(30 + random.nextInt(10))) + 1;
+        same("done", x.done(), m.done());
+        return calls;
     }
 
     private static void same(String call, long got, long want) {
