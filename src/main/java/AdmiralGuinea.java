@@ -727,7 +727,8 @@ public final class AdmiralGuinea {
         }
 
         private void receive(int buyer, int sumMore) {
-            if (isBuyer(buyer)) {
+            // Not isBuyer: payments are the deepest calls, and the rules count each level.
+            if (isWithin(buyer, 0, BUYERS - 1)) {
                 cash[buyer] = Math.min(MOST_CASH, cash[buyer] + sumMore);
             }
         }

@@ -8,7 +8,9 @@ import java.nio.file.Path;
 import java.util.ArrayList;
 import java.util.Arrays;
 import java.util.List;
+import java.util.Map;
 import java.util.Set;
+import java.util.TreeMap;
 import java.util.TreeSet;
 import java.util.regex.Matcher;
 import java.util.regex.Pattern;
@@ -102,6 +104,7 @@ public final class LanguageTest {
         for (String no : never) check.isTrue("no " + no, !Pattern.compile(no).matcher(code).find());
         loopsHaveBounds(code);
         methods(code);
+        depth(code);
     }
 
     private static void loopsHaveBounds(String code) {
@@ -129,5 +132,40 @@ public final class LanguageTest {
             check.isTrue(name + " makes nothing", !makes || Character.isUpperCase(name.charAt(0)) || name.equals("image"));
             check.isTrue("line " + (i + 1) + " is not too long", lines[i].length() <= 120);
         }
+    }
+
+    /** Rule 11 allows eight calls that stand open at once; one is kept in hand. No method calls itself. */
+    private static void depth(String code) {
+        Map<String, Set<String>> calls = callsOf(code);
+        for (String name : calls.keySet()) {
+            check.isTrue(name + " goes seven deep at most", deepest(calls, name, 1) <= 7);
+        }
+    }
+
+    /** Which names each method calls; methods of one name count as one. */
+    private static Map<String, Set<String>> callsOf(String code) {
+        Pattern head = Pattern.compile(" {4}(?: {4})?[\\w \\[\\]]*\\b(\\w+)\\([\\w \\[\\],]*\\) \\{");
+        Map<String, Set<String>> calls = new TreeMap<>();
+        Set<String> now = new TreeSet<>();
+        for (String line : code.split("\n")) {
+            Matcher m = head.matcher(line);
+            if (m.matches() && !line.trim().startsWith("if") && !line.trim().startsWith("for")) {
+                now = calls.computeIfAbsent(m.group(1), name -> new TreeSet<>());
+                continue;
+            }
+            Matcher call = Pattern.compile("\\b(\\w+)\\(").matcher(line);
+            while (call.find()) now.add(call.group(1));
+        }
+        return calls;
+    }
+
+    /** Beyond 20 some method must call itself. */
+    private static int deepest(Map<String, Set<String>> calls, String name, int open) {
+        int most = open;
+        if (open > 20) return most;
+        for (String next : calls.get(name)) {
+            if (calls.containsKey(next)) most = Math.max(most, deepest(calls, next, open + 1));
+        }
+        return most;
     }
 }
